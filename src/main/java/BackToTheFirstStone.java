@@ -17,7 +17,7 @@ public final class BackToTheFirstStone {
     private static final int BY_TENS = -10;
     private static final int BY_MILLIONS = -1000000;
 
-    private static final int MOST_YIELD = 30000;
+    private static final int MOST_TOLD_HEIGHT = 30000;
     private static final int MOST_COMPARED = 40;
     private static final int MOST_SEASONS = 60;
     private static final int BOOK_WIDTH = 4;
@@ -228,7 +228,7 @@ public final class BackToTheFirstStone {
     public int meet(int stone, int height, int what) {
         boolean told = stone >= 1 && stone < now.count() && (what == 0 || what == 1);
         if (!told) return BY_MILLIONS + refuse(BEYOND);
-        if (height < -MOST_YIELD || height > MOST_YIELD) return BY_MILLIONS + refuse(WRONG);
+        if (height < -MOST_TOLD_HEIGHT || height > MOST_TOLD_HEIGHT) return BY_MILLIONS + refuse(WRONG);
         int above = height - now.heightAt(stone);
         if (what == 0) return above;
         return shareOf(above, now.weightAheadOf(stone, 1), now.weightAheadOf(now.count(), 1));
