@@ -69,8 +69,7 @@ public final class BackToTheFirstStone {
 
     public int copy(int p, int q, int i, int j, int n) {
         int why = pairRefusal(p, q);
-        boolean bothHold = shelves.heldBy(p) != NONE && shelves.heldBy(q) != NONE;
-        if (why == 0 && bothHold && shelves.heldBy(p) != shelves.heldBy(q)) why = OTHER;
+        if (why == 0 && shelves.heldBy(p) != shelves.heldBy(q)) why = OTHER;
         if (why == 0 && n < 0) why = BELOW;
         if (why == 0 && !(shelves.hasStretch(p, i, n) && shelves.hasStretch(q, j, n))) why = BEYOND;
         if (why != 0) return refuse(why);

@@ -171,6 +171,7 @@ public final class ModelTest {
         holders();
         longAndSteep();
         acts();
+        turn();
     }
 
     private static SetUp ofKind(int kind) {
@@ -411,6 +412,16 @@ public final class ModelTest {
             is("act", x.act(one.m, act, arg), due);
             is("bodies", x.status(6), one.trace.size());
             for (int i = 0; i < one.trace.size(); i++) is("trace", x.trace(i), one.trace.get(i));
+        }
+    }
+
+    private void turn() {
+        x.turn();
+        int n = loop.size();
+        for (int i = 0; i < n; i++) {
+            SetUp one = loop.get(n - 1 - i);
+            int[] due = {one.kind, one.a, one.ahead, one.behind, one.on, one.back, one.holder, 1 - one.first};
+            for (int what = 0; what < 8; what++) is("turned " + what, x.setupOf(i, what), due[what]);
         }
     }
 

@@ -82,8 +82,10 @@ public final class PromisesTest {
         is("2 none", x.row(7, 0, 0), 1);
         is("2 none holds", x.holds(7), 100);
         is("2 last", x.set(0, 159, 9), 1);
+        is("2 first", x.set(0, 0, 9), 1);
         is("2 new", x.row(0, 0, 160), 1);
         is("2 new is 0", x.element(0, 159), 0);
+        is("2 new is 0 at first, too", x.element(0, 0), 0);
         is("2 shorter", x.row(0, 1, 3), 1);
         is("2 longer again", x.row(0, 1, 160), 1);
         is("2 set-up", x.setup(0, 0, 1, 1, 1, 1), 0);
@@ -279,6 +281,9 @@ public final class PromisesTest {
         is("11 first", x.tell(1, 3, 1), 0);
         is("11 first is", x.setupOf(1, 7), 1);
         is("11 error then", x.setupOf(1, 9), -6);
+        is("11 first again", x.tell(1, 3, 0), 1);
+        is("11 holder again", x.tell(1, 2, 0), 1);
+        is("11 both are", x.setupOf(1, 7) + x.setupOf(1, 6), 0);
         Checks.noneRefused("11", x);
         refused("11 set-up", y -> y.tell(3, 9, 0), -1, 1);
         refused("11 set-up below", y -> y.tell(-1, 0, 0), -1, 1);
@@ -560,12 +565,19 @@ public final class PromisesTest {
         // a 6 that was a 9, hundreds: 1600 instead of 1900
         bigFirst("6 was 9", 1600, 0, 1900, 1, new int[] {0, 0, 0, 1900});
         bigFirst("9 was 6", 1900, 0, 1600, 1, new int[] {0, 0, 1, 1600});
+        bigFirst("6 was 9, thousands", 6000, 0, 9000, 1, new int[] {0, 0, 0, 9000});
+        bigFirst("9 was 6, thousands", 9123, 0, 6123, 1, new int[] {0, 0, 1, 6123});
+        bigFirst("6 was 9, ones", 1236, 0, 1239, 1, new int[] {0, 0, 0, 1239});
+        bigFirst("9 was 6, ones", 1239, 0, 1236, 1, new int[] {0, 0, 1, 1236});
+        bigFirst("neighbours, thousands", 2153, 0, 1253, 1, new int[] {0, 0, 2, 1253});
         bigFirst("neighbours", 1253, 0, 1235, 1, new int[] {0, 0, 2, 1235});
         bigFirst("100 less", 1253, 0, 1153, 1, new int[] {0, 0, 3, 1153});
         bigFirst("100 more", 1253, 0, 1353, 1, new int[] {0, 0, 4, 1353});
         bigFirst("0s ahead", 9, 0, 900, 0, null);
         bigFirst("0s ahead the other way", 900, 0, 9000, 1, new int[] {0, 0, 2, 9000});
         bigCount("not below 0: AHEAD and 100, the other way, of both", 50, 0, 60, 10, 4);
+        bigCount("not 10000: AHEAD less 100, the other way, of both", 9900, 9950, 9939, 9989, 4);
+        bigCount("9999 may be, and what the others make", 9899, 9949, 9939, 9989, 5);
         bigCount("not above 9999: AHEAD less 100, the other way, of both", 9949, 9999, 9939, 9989, 4);
         BackToTheFirstStone x = made();
         x.setup(0, 0, 1500, 1500, 1, 1);
@@ -585,6 +597,8 @@ public final class PromisesTest {
         y.setup(0, 0, 1, 8, 1, 1);
         is("18 none", y.big(-1), 0);
         Checks.refusedBy(y, "18 none to tell", z -> z.big(0), -5, 5);
+        Checks.refusedBy(x, "18 what where there is one", z -> z.big(4), -5, 5);
+        Checks.refusedBy(x, "18 what below where there is one", z -> z.big(-2), -5, 5);
         refused("18 what", z -> z.big(4), -5, 5);
         refused("18 what below", z -> z.big(-2), -5, 5);
         leaningSlip();
@@ -905,12 +919,18 @@ public final class PromisesTest {
     private static void drop() {
         BackToTheFirstStone x = Checks.sample();
         x.show(3, 2);
+        x.show(7, 2);
         is("30 two left", x.drop(), 2);
         is("30 its shelf", x.holds(3), -1);
+        is("30 another shelf of it", x.holds(7), -1);
+        x.show(0, 1);
+        x.show(6, 0);
         is("30 another's shelf", x.holds(2), 1);
-        is("30 a row's shelf", x.holds(0), 100);
+        is("30 a row's shelf", x.holds(1), 102);
         is("30 one left", x.drop(), 1);
         is("30 the other's shelf", x.holds(2), -1);
+        is("30 the first shelf", x.holds(0), -1);
+        is("30 the first set-up's shelf", x.holds(6), 0);
         is("30 none left", x.drop(), 0);
         Checks.noneRefused("30", x);
         Checks.refusedBy(x, "30 none", y -> y.drop(), -6, 6);
