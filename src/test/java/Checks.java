@@ -1,16 +1,21 @@
 import java.util.Arrays;
 
 /** What the tests share: counting what is wrong, rows from texts, and what a refused call may change. */
-final class Checks {
+abstract class Checks {
+    static final int MIN = Integer.MIN_VALUE;
+    static final int MAX = Integer.MAX_VALUE;
+    static final int SHELVES = 8;
+
     interface Call {
         long of(BackToTheFirstStone x);
     }
 
+    interface Maker {
+        BackToTheFirstStone make();
+    }
+
     private static int wrong = 0;
     private static int made = 0;
-
-    private Checks() {
-    }
 
     static void is(String what, long got, long want) {
         made++;
@@ -43,6 +48,7 @@ final class Checks {
 
     /**
      * Shelves: 0 bytes (6), 1 ints (a book of two), 2 set-up 1, 3 nothing, 4 longs (8), 5 ints (a wrong book of one).
+     * Three set-ups; an image of other figures.
      */
     static BackToTheFirstStone sample() {
         BackToTheFirstStone x = new BackToTheFirstStone();
@@ -50,6 +56,7 @@ final class Checks {
         x.setup(5, 3, 1300, 1360, 10, 20);
         x.setup(4, 2, 1000, 1020, 50, 60);
         x.tell(1, 2, 3);
+        x.image();
         x.tell(2, 3, 1);
         x.ask(0, -70);
         x.seed(99);
@@ -63,8 +70,18 @@ final class Checks {
     }
 
     static void refused(String what, Call call, long answer, int number) {
-        BackToTheFirstStone x = sample();
-        refusedBy(x, what, call, answer, number);
+        refusedOf(Checks::sample, what, call, answer, number);
+    }
+
+    // Of two made alike one is refused once: in all but the count of that refusal they stay alike.
+    static void refusedOf(Maker maker, String what, Call call, long answer, int number) {
+        BackToTheFirstStone x = maker.make();
+        BackToTheFirstStone alike = maker.make();
+        is(what, call.of(x), answer);
+        for (int n = 1; n <= 7; n++) {
+            is(what + " counts, refusals -" + n, x.status(10 + n), alike.status(10 + n) + (n == number ? 1 : 0));
+        }
+        is(what + " leaves all as it was", Arrays.equals(seenWithImage(x), seenWithImage(alike)) ? 1 : 0, 1);
     }
 
     static void refusedBy(BackToTheFirstStone x, String what, Call call, long answer, int number) {
@@ -88,18 +105,75 @@ final class Checks {
     }
 
     private static long[] seen(BackToTheFirstStone x) {
-        long[] seen = new long[120];
-        int n = 0;
-        for (int what = 0; what <= 6; what++) seen[n++] = x.status(what);
-        for (int setup = 0; setup < 3 && setup < x.status(0); setup++) {
-            for (int what = 0; what <= 7; what++) seen[n++] = x.setupOf(setup, what);
+        Seen seen = new Seen();
+        seen.loopOf(x);
+        for (int s = 0; s < SHELVES; s++) {
+            seen.add(x.holds(s));
+            for (int i = 0; i < 9; i++) seen.add(x.element(s, i));
+            seen.add(x.element(s, 159));
         }
-        for (int s = 0; s < 8; s++) seen[n++] = x.holds(s);
-        for (int s = 0; s < 6; s++) {
-            for (int i = 0; i < 8; i++) seen[n++] = x.element(s, i);
+        seen.add(x.fault());
+        seen.add(x.status(6));
+        for (int i = 0; i <= 10; i++) seen.add(x.trace(i));
+        return seen.all();
+    }
+
+    // The image can be seen only by going back to it.
+    private static long[] seenWithImage(BackToTheFirstStone x) {
+        Seen seen = new Seen();
+        for (long one : seen(x)) seen.add(one);
+        seen.add(x.restore());
+        seen.loopOf(x);
+        return seen.all();
+    }
+
+    /** Answers, one after the other. */
+    private static final class Seen {
+        private long[] answers = new long[512];
+        private int n = 0;
+
+        void add(long answer) {
+            answers[n++] = answer;
         }
-        seen[n++] = x.fault();
-        for (int i = 0; i < 3; i++) seen[n++] = x.trace(i);
-        return seen;
+
+        void loopOf(BackToTheFirstStone x) {
+            for (int what = 0; what <= 5; what++) add(x.status(what));
+            int setUps = x.status(0);
+            for (int setup = 0; setup < setUps; setup++) {
+                for (int what = 0; what <= 7; what++) add(x.setupOf(setup, what));
+            }
+        }
+
+        long[] all() {
+            return Arrays.copyOf(answers, n);
+        }
+    }
+
+    static BackToTheFirstStone made() {
+        return new BackToTheFirstStone();
+    }
+
+    // So many alike: level, no error, two yards.
+    static BackToTheFirstStone plain(int setUps) {
+        BackToTheFirstStone x = made();
+        for (int i = 0; i < setUps; i++) is("plain set-up", x.setup(0, 0, 1000, 1000, 1, 1), i);
+        return x;
+    }
+
+    // The loop's set-ups by {KIND, a, BEHIND, AHEAD, YARDS, YARDS}.
+    static BackToTheFirstStone loopBy(int[]... setUps) {
+        BackToTheFirstStone x = made();
+        for (int i = 0; i < setUps.length; i++) {
+            int[] v = setUps[i];
+            is("set-up", x.setup(v[0], v[1], v[2], v[3], v[4], v[5]), i);
+        }
+        return x;
+    }
+
+    // The loop's set-ups by what they book, without any error.
+    static BackToTheFirstStone booked(int... booked) {
+        BackToTheFirstStone x = made();
+        for (int v : booked) x.setup(0, 0, Math.max(v, 0), Math.max(-v, 0), 1, 1);
+        return x;
     }
 }
