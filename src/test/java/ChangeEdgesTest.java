@@ -523,6 +523,10 @@ public final class ChangeEdgesTest extends Checks {
         x.drop();
         x.restore();
         is("37 one that was emptied stays so", x.holds(1), -1);
+        for (int i = 2; i < 16; i++) x.setup(0, 0, 1, 1, 1, 1);
+        for (int s = 0; s < SHELVES; s++) x.show(s, 15 - s);
+        x.restore();
+        for (int s = 0; s < SHELVES; s++) is("37 shelves of those that are no more, " + s, x.holds(s), -1);
     }
 
     // ---- 38 status ----

@@ -482,6 +482,9 @@ public final class OutcomeEdgesTest extends Checks {
         fill(x, 2, 2, MIN, 0, 0);
         fill(x, 3, 2, MAX, -1, -1);
         is("23 so far apart", x.rose(2, 3, 3), 0);
+        fill(x, 2, 2, 0, 0, MIN);
+        fill(x, 3, 2, -1, -1, MAX);
+        is("23 so far apart at the end", x.rose(2, 3, 3), 2);
     }
 
     private static void roseRefusals() {

@@ -24,6 +24,7 @@ public final class ShelfEdgesTest extends Checks {
         copyRefusalsInOrder();
         elementNone();
         elementOfNeighbours();
+        elementOfARowThatIsGone();
         showShelves();
         showSetUps();
         showNothing();
@@ -340,10 +341,16 @@ public final class ShelfEdgesTest extends Checks {
         x.set(0, 159, 7);
         x.row(0, 0, 159);
         is("5 behind the last of a shorter row", x.element(0, 159), 0);
+    }
+
+    private static void elementOfARowThatIsGone() {
+        BackToTheFirstStone x = plain(1);
         x.row(0, 0, 160);
-        x.set(0, 1, 7);
+        for (int i = 0; i < 160; i++) x.set(0, i, 7);
         x.show(0, -1);
-        is("5 of a shelf that holds nothing now", x.element(0, 1), 0);
+        for (int i = 0; i < 160; i += 53) is("5 of a shelf that holds nothing now, " + i, x.element(0, i), 0);
+        x.show(0, 0);
+        is("5 of a shelf that holds a set-up now", x.element(0, 0), 0);
     }
 
     // ---- 6 show, 7 holds ----

@@ -47,6 +47,7 @@ public final class SlipEdgesTest extends Checks {
     private static void told(String what, BackToTheFirstStone x, int many, int... first) {
         is("18 how many: " + what, x.big(-1), many);
         for (int i = 0; i < 4; i++) is("18 first " + i + ": " + what, x.big(i), first[i]);
+        is("18 how many, asked again: " + what, x.big(-1), many);
         noneRefused("18 " + what, x);
     }
 

@@ -310,7 +310,13 @@ public final class TextEdgesTest extends Checks {
         loopOf(x, "hair 2;hair 3;holder 0 1;holder 0 2;again 0 1 2;again 0 3 4");
         is("13 the later hair", x.status(3), 3);
         is("13 the later holder", x.setupOf(0, 6), 2);
-        is("13 the later reading", x.setupOf(0, 2), 3);
+        is("13 the later reading behind", x.setupOf(0, 2), 3);
+        is("13 the later reading ahead", x.setupOf(0, 3), 4);
+        loopOf(x, "first 0 0;first 0 1;start 1;start 9999;fine 2;fine 99");
+        is("13 the later first", x.setupOf(0, 7), 1);
+        is("13 the later start", x.status(2), 9999);
+        is("13 the later fine", x.status(4), 99);
+        is("13 the hair as it was", x.status(3), 3);
     }
 
     private static void againKeepsTheRest() {
