@@ -4,6 +4,7 @@ public final class ChangeEdgesTest extends Checks {
         dropToNone();
         dropOneOfSixteen();
         dropEmptiesItsShelves();
+        droppedCountsNoMore();
         turnOfNone();
         turnOfOne();
         turnOfTwoAndThree();
@@ -91,6 +92,40 @@ public final class ChangeEdgesTest extends Checks {
         x.drop();
         x.drop();
         is("30 the last one's shelf", x.holds(3), -1);
+    }
+
+    // Whatever is asked then: as if it never had been, also if it is gone by an image.
+    private static void droppedCountsNoMore() {
+        int[] small = {5, 2, 1010, 1000, 3, 4};
+        int[] steep = {5, 9, 9999, 0, 99, 99};
+        long[] due = outcomes(loopBy(small, small));
+        BackToTheFirstStone dropped = loopBy(small, small, steep);
+        dropped.tell(2, 2, 1);
+        dropped.drop();
+        same("30 dropped", outcomes(dropped), due);
+        BackToTheFirstStone restored = loopBy(small, small);
+        restored.image();
+        for (int i = 2; i < 16; i++) restored.setup(5, 9, 9999, 0, 99, 99);
+        for (int i = 2; i < 16; i++) restored.tell(i, 2, 1);
+        restored.restore();
+        same("37 restored", outcomes(restored), due);
+        same("30 dropped to none", outcomes(allDropped()), outcomes(made()));
+    }
+
+    private static void same(String what, long[] got, long[] due) {
+        is(what + ", how many answers", got.length, due.length);
+        for (int i = 0; i < due.length; i++) is(what + ", answer " + i, got[i], due[i]);
+    }
+
+    private static long[] outcomes(BackToTheFirstStone x) {
+        x.row(0, 2, 16);
+        return new long[] {
+            x.status(0), x.status(1), x.hours(), x.height(0), x.height(1), x.height(2), x.height(3),
+            x.off(0), x.off(1), x.off(2), x.off(3), x.spread(0, 1), x.spread(1, 2), x.spread(2, 1), x.spread(0, 3),
+            x.big(-1), x.big(0), x.parts(0, 0), x.parts(0, 1), x.again(7), x.again(14), x.again(MAX),
+            x.order(0), x.order(1), x.meet(1, 7, 0), x.meet(1, 7, 1), x.meet(2, 7, 1), x.crooked(0), x.crooked(1),
+            x.most(0), x.most(1), x.show(1, 2), x.setupOf(2, 0), x.tell(2, 0, 0), x.act(2, 0, 1), x.image(),
+            x.turn(), x.off(1), x.seasons(9), x.status(5), x.drop(), x.restore(), x.height(2)};
     }
 
     // ---- 31 turn ----

@@ -5,7 +5,9 @@ import java.lang.reflect.Method;
 import java.lang.reflect.Modifier;
 import java.nio.file.Files;
 import java.nio.file.Path;
+import java.util.ArrayList;
 import java.util.Arrays;
+import java.util.List;
 import java.util.Set;
 import java.util.TreeSet;
 import java.util.regex.Matcher;
@@ -19,7 +21,11 @@ public final class LanguageTest {
     public static void main(String[] args) throws IOException {
         face();
         names();
+        fields();
         source();
+        library();
+        lengths();
+        newObjects();
         Checks.end("LanguageTest");
     }
 
@@ -70,9 +76,72 @@ public final class LanguageTest {
         }
     }
 
+    // Rules 3, 5 and 11: what is static is final and never changed; some twenty fields beside constants.
+    private static void fields() throws IOException {
+        Set<Class<?>> constants = Set.of(int.class, long.class, boolean.class, char.class, String.class,
+            int[].class, long[].class, char[].class, byte[].class);
+        List<Class<?>> all = new ArrayList<>(List.of(BackToTheFirstStone.class.getDeclaredClasses()));
+        all.add(BackToTheFirstStone.class);
+        String code = code();
+        for (Class<?> one : all) {
+            int ownFields = 0;
+            for (Field field : one.getDeclaredFields()) {
+                if (!Modifier.isStatic(field.getModifiers())) {
+                    ownFields++;
+                    continue;
+                }
+                is(field + " is final", Modifier.isFinal(field.getModifiers()));
+                is(field + " is a constant", constants.contains(field.getType()));
+                String changed = "\\b" + field.getName() + "(\\[[^\\]]*\\])\\s*([-+*/|&^]?=[^=]|\\+\\+|--)";
+                is(field + " is never changed", !Pattern.compile(changed).matcher(code).find());
+            }
+            is(one + " has some twenty fields at most", ownFields <= 20);
+        }
+    }
+
+    private static String code() throws IOException {
+        return Files.readString(SOURCE).replaceAll("(?s)/\\*.*?\\*/", "").replaceAll("//.*", "")
+            .replaceAll("\"[^\"\n]*\"", "\"\"");
+    }
+
+    // Rule 4: of the library nothing but these; rule 10: no text is joined by +.
+    private static void library() throws IOException {
+        String code = code();
+        Set<String> own = new TreeSet<>(Set.of("BackToTheFirstStone", "String"));
+        for (Class<?> one : BackToTheFirstStone.class.getDeclaredClasses()) own.add(one.getSimpleName());
+        Set<String> taken = Set.of("Math.abs", "Math.max", "Math.min", "Integer.signum", "System.arraycopy");
+        Matcher type = Pattern.compile("(?<![\\w.])([A-Z][a-z]\\w*)(\\.\\w+)?").matcher(code);
+        while (type.find()) is("'" + type.group() + "'", own.contains(type.group(1)) || taken.contains(type.group()));
+        Matcher onText = Pattern.compile("\\bwhole\\.(\\w+)").matcher(code);
+        while (onText.find()) is("'" + onText.group() + "'", Set.of("length", "charAt").contains(onText.group(1)));
+        is("no text is joined", !Pattern.compile("\"\" *\\+|\\+ *\"\"").matcher(code).find());
+        is("no double, no float", !Pattern.compile("\\b(double|float)\\b").matcher(code).find());
+    }
+
+    // Rule 11: methods stay short.
+    private static void lengths() throws IOException {
+        int begin = 0;
+        String[] lines = code().split("\n");
+        for (int i = 0; i < lines.length; i++) {
+            if (lines[i].matches(" {4}( {4})?\\S.*\\) \\{")) begin = i;
+            if (lines[i].matches(" {4}( {4})?\\}")) is("the method that ends in line " + i + " is short", i - begin <= 60);
+        }
+    }
+
+    // Rule 12, and the room of a run: rows are made with the object, by no call.
+    private static void newObjects() throws IOException {
+        for (String line : code().split("\n")) {
+            if (!line.matches(".*\\bnew\\b.*|.*\\.clone\\(.*")) continue;
+            boolean isField = line.matches(" {8}private final \\S+ \\w+ = new .*");
+            boolean isMade = line.matches(" {8}\\w+ = new \\S+(\\(\\)|\\[.*\\]);");
+            is("made with the object: " + line, isField || isMade && Pattern.compile("(?m)^ {4}private final \\S+ "
+                + line.strip().split(" ")[0] + ";").matcher(code()).find());
+        }
+    }
+
     private static void source() throws IOException {
         String source = Files.readString(SOURCE);
-        String code = source.replaceAll("(?s)/\\*.*?\\*/", "").replaceAll("//.*", "").replaceAll("\"[^\"\n]*\"", "\"\"");
+        String code = code();
         String banned = "\\b(throw|throws|try|catch|finally|synchronized|assert|import|package|new Thread|static \\{|var"
             + "|volatile|transient|native|hashCode|toString|Exception|Error)\\b|->|::|\\w+Exact\\b";
         Matcher word = Pattern.compile(banned).matcher(code);

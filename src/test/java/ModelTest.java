@@ -160,6 +160,7 @@ public final class ModelTest {
         x.ask(1, hair);
         int n = chance.nextInt(17);
         for (int i = 0; i < n; i++) add(i);
+        if (n < 16) addAndDrop();
         if (n > 0 && chance.nextInt(3) > 0) nearlyClose();
         heights();
         spreads();
@@ -196,6 +197,12 @@ public final class ModelTest {
         x.tell(m, 2, made.holder);
         x.tell(m, 3, made.first);
         loop.add(made);
+    }
+
+    // What is dropped may leave no trace in any answer.
+    private void addAndDrop() {
+        x.setup(chance.nextInt(7), chance.nextInt(10), chance.nextInt(10000), chance.nextInt(10000), 99, 99);
+        is("drop", x.drop(), loop.size());
     }
 
     // So that one slip often makes it.
